@@ -1,0 +1,58 @@
+/** Promise 10: begin. */
+public final class Promise10BeginTest {
+    public static void main(String[] args) {
+        Due due = new Due();
+        nothingIsOpenNothingWas(due);
+        leavesTheMemoryAndTheTimes(due);
+        due.end();
+    }
+
+    private static void nothingIsOpenNothingWas(Due due) {
+        BankTimes x = new BankTimes(1, 3, 0);
+        for (int c = 0; c < 2; c++) {
+            int channel = c;
+            for (int bank = 0; bank < 4; bank++) {
+                x.check(channel, 100 + 2 * bank, 0, bank, 9);
+            }
+            x.check(channel, 107, 1, 0, 9);
+            x.check(channel, 109, 2, 0, 9);
+            due.is("before", 1, () -> x.check(channel, 0, 0, 0, 3));
+        }
+        x.begin();
+        for (int c = 0; c < 2; c++) {
+            int channel = c;
+            due.is("read of none", 2, () -> x.check(channel, 110, 1, 0, 9));
+            due.is("first at 0", 0, () -> x.check(channel, 0, 0, 0, 3));
+            due.is("its time binds", 3, () -> x.check(channel, 2, 1, 0, 3));
+            due.is("no WRITE was", 0, () -> x.check(channel, 3, 1, 0, 3));
+            due.is("no four were", 0, () -> x.check(channel, 4, 0, 1, 3));
+        }
+        x.begin();
+        due.is("REFRESH", 0, () -> x.check(1, 5, 4, 0, 0));
+        x.begin();
+        due.is("no REFRESH was", 0, () -> x.check(1, 5, 4, 0, 0));
+        x.begin();
+        x.begin();
+        x.check(0, 0, 0, 0, 0);
+        x.check(0, 7, 3, 0, 0);
+        x.begin();
+        due.is("no CLOSE was", 0, () -> x.check(0, 8, 0, 0, 0));
+    }
+
+    private static void leavesTheMemoryAndTheTimes(Due due) {
+        BankTimes x = new BankTimes(0, 0, 0);
+        x.time(0, 9);
+        x.span(60);
+        x.ask(7 << 4, false);
+        x.run(1);
+        x.begin();
+        due.is("open", 7, () -> x.open(0, 0));
+        due.is("cycle", 1, () -> x.count(0));
+        due.is("commands", 1, () -> x.count(3));
+        due.is("span", 60, () -> x.span(60));
+        due.is("activate", 0, () -> x.check(0, 0, 0, 0, 0));
+        due.is("the time is kept", 3, () -> x.check(0, 8, 1, 0, 0));
+        x.run(20);
+        due.is("done", 10, () -> x.done(0));
+    }
+}
