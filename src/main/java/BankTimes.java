@@ -56,13 +56,15 @@ public final class BankTimes {
         this.bankBits = Math.floorMod(banks, 4);
         this.bankCount = 1 << bankBits;
         this.scheduler = Math.floorMod(scheduler, SCHEDULERS);
-        this.times = FIRST_TIMES.clone();
+        // One row of times for all, so that memory and checker see a change at once.
+        int[] shared = FIRST_TIMES.clone();
+        this.times = shared;
         int channelCount = 1 + channelBits;
         this.channels = new Channel[channelCount];
         this.checkers = new Rules[channelCount];
         for (int c = 0; c < channelCount; c++) {
-            this.channels[c] = new Channel(bankCount, times);
-            this.checkers[c] = new Rules(bankCount, times);
+            this.channels[c] = new Channel(bankCount, shared);
+            this.checkers[c] = new Rules(bankCount, shared);
         }
         this.log = new Log();
         this.doneCycles = new int[MOST_ASKS];

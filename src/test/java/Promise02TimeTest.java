@@ -47,18 +47,21 @@ public final class Promise02TimeTest {
     }
 
     private static void refusesWhileAnAskWaitsOrARowIsOpen(Due due) {
-        BankTimes x = new BankTimes(1, 1, 0);
-        x.ask(1 << 4, false);
-        due.throwing("an ask waits", IllegalStateException.class, () -> x.time(0, 5));
-        x.run(4);
-        due.is("none waits", 0, () -> x.count(10));
-        due.throwing("a row is open", IllegalStateException.class, () -> x.time(0, 5));
-        x.span(50);
-        x.run(46);
-        due.is("closed", BankTimes.NONE, () -> x.open(1, 0));
-        due.is("none open", 3, () -> x.time(0, 5));
-        x.check(0, 0, 0, 0, 0);
-        due.is("the checker's row is not the memory's", 5, () -> x.time(0, 6));
+        for (int c = 0; c < 2; c++) {
+            int channel = c;
+            BankTimes x = new BankTimes(1, 1, 0);
+            x.ask(channel << 4, false);
+            due.throwing("an ask waits", IllegalStateException.class, () -> x.time(0, 5));
+            x.run(4);
+            due.is("none waits", 0, () -> x.count(10));
+            due.throwing("a row is open", IllegalStateException.class, () -> x.time(0, 5));
+            x.span(50);
+            x.run(46);
+            due.is("closed", BankTimes.NONE, () -> x.open(channel, 0));
+            due.is("none open", 3, () -> x.time(0, 5));
+            x.check(0, 0, 0, 0, 0);
+            due.is("the checker's row is not the memory's", 5, () -> x.time(0, 6));
+        }
     }
 
     /** FIRST serves a write of bank 0 row 0, a read of it, a read of row 1, a read of bank 1. */

@@ -3,6 +3,7 @@ public final class Promise10BeginTest {
     public static void main(String[] args) {
         Due due = new Due();
         nothingIsOpenNothingWas(due);
+        noColumnCommandWas(due);
         leavesTheMemoryAndTheTimes(due);
         due.end();
     }
@@ -37,6 +38,24 @@ public final class Promise10BeginTest {
         x.check(0, 7, 3, 0, 0);
         x.begin();
         due.is("no CLOSE was", 0, () -> x.check(0, 8, 0, 0, 0));
+    }
+
+    /** An old READ or WRITE must not hold a CLOSE, though only one of its own bank would. */
+    private static void noColumnCommandWas(Due due) {
+        for (int k = 1; k <= 2; k++) {
+            int kind = k;
+            BankTimes x = new BankTimes(0, 0, 0);
+            x.time(3, 100);
+            x.time(5, 100);
+            for (int round = 0; round < 2; round++) {
+                x.begin();
+                due.is("ACTIVATE", 0, () -> x.check(0, 0, 0, 0, 0));
+                due.is("CLOSE", 0, () -> x.check(0, 7, 3, 0, 0));
+                due.is("ACTIVATE again", 0, () -> x.check(0, 10, 0, 0, 0));
+                due.is("READ or WRITE", 0, () -> x.check(0, 13, kind, 0, 0));
+                due.is("too soon", kind == 1 ? 6 : 8, () -> x.check(0, 112, 3, 0, 0));
+            }
+        }
     }
 
     private static void leavesTheMemoryAndTheTimes(Due due) {

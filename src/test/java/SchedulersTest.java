@@ -14,7 +14,9 @@ public final class SchedulersTest {
         Due due = new Due();
         eachGoesItsOwnWay(due);
         firstWaitsForTheOldest(due);
+        rowsPrefersAnOpenRow(due);
         rowsLeavesAWantedRowOpen(due);
+        rowsLeavesAnOldersRowOpen(due);
         rowsGoesOnBehindAWantedRow(due);
         readsTurnsToWritesAtFive(due);
         readsLooksAtItsOwnAlone(due);
@@ -61,6 +63,31 @@ public final class SchedulersTest {
         due.is("bank 1 waits", BankTimes.NONE, () -> x.open(0, 1));
         x.run(10);
         doneAre(due, "first", x, 4, 8);
+    }
+
+    private static void rowsPrefersAnOpenRow(Due due) {
+        for (int write = 0; write < 2; write++) {
+            BankTimes x = new BankTimes(0, 1, ROWS);
+            x.ask(at(0, 0), false);
+            x.run(20);
+            x.ask(at(1, 0), false);
+            x.ask(at(0, 0), write == 1);
+            x.run(1);
+            due.is("the younger one first", 21, () -> x.done(2));
+            x.run(1);
+            due.is("then the older one", 0, () -> x.open(0, 1));
+        }
+    }
+
+    private static void rowsLeavesAnOldersRowOpen(Due due) {
+        BankTimes x = new BankTimes(0, 0, ROWS);
+        x.time(4, 20);
+        x.ask(0, true);
+        x.run(4);
+        x.ask(0, false);
+        x.ask(1 << 4, false);
+        x.run(60);
+        doneAre(due, "older one's row", x, 4, 24, 32);
     }
 
     private static void rowsLeavesAWantedRowOpen(Due due) {
