@@ -27,6 +27,12 @@ final class Due {
         }
     }
 
+    /** The memory tells just what it told before: refused calls have changed nothing. */
+    void unchanged(BankTimes x, String before) {
+        String now = Seen.of(x);
+        holds("nothing is changed, " + before + "and " + now, now.equals(before));
+    }
+
     void holds(String what, boolean held) {
         if (!held) {
             tell(what + " does not hold");

@@ -36,7 +36,7 @@ public final class ModelTest {
         for (int seed = 0; seed < RUNS; seed++) {
             ModelTest run = new ModelTest(due, seed);
             run.changeTimes();
-            for (int i = 0; i < CALLS - 20; i++) {
+            for (int i = 0; i < CALLS - 45; i++) {
                 run.anyCall();
             }
             for (int what = -1; what <= 14; what++) {
@@ -149,33 +149,32 @@ public final class ModelTest {
                 () -> model.check(c, at, kind, bank, row));
     }
 
-    /** What the memory gave must please the checker; the times were changed only at first. */
+    /** What the memory gave must please another one's checker, which goes by the same times. */
     private void commandsKeepTheRules() {
         BankTimes quiet = new BankTimes(1, 3, random.nextInt(4));
-        int[] whats = {0, 1, 2, 3, 4, 5, 6, 7, 8};
-        for (int w : whats) {
-            quiet.time(w, some(1, 30));
+        BankTimes judge = new BankTimes(1, 3, 0);
+        for (int what = 0; what < 9; what++) {
+            int cycles = some(1, 30);
+            quiet.time(what, cycles);
+            judge.time(what, cycles);
         }
         quiet.span(some(50, 200));
-        for (int i = 0; i < 200 && quiet.count(3) < 480; i++) {
+        for (int i = 0; i < 30; i++) {
             int address = some(0, 3) << 8 | some(0, 255);
-            if (quiet.count(10) < 8) {
-                quiet.ask(address, some(0, 1) == 0);
-            }
-            quiet.run(some(1, 10));
+            // The queue may be full: then this one is refused.
+            told(() -> quiet.ask(address, some(0, 1) == 0));
+            quiet.run(some(1, 20));
         }
-        for (int k = 0; k < quiet.count(3); k++) {
-            int i = k;
+        int given = Math.min(80, quiet.count(3));
+        for (int k = 0; k < given; k++) {
+            int[] parts = new int[5];
+            for (int what = 0; what < 5; what++) {
+                parts[what] = quiet.command(k, what);
+            }
             due.is(
-                    name + ": the checker on command " + i,
+                    name + ": the checker on command " + k,
                     0,
-                    () ->
-                            quiet.check(
-                                    quiet.command(i, 0),
-                                    quiet.command(i, 1),
-                                    quiet.command(i, 2),
-                                    quiet.command(i, 3),
-                                    quiet.command(i, 4)));
+                    () -> judge.check(parts[0], parts[1], parts[2], parts[3], parts[4]));
         }
     }
 }

@@ -3,8 +3,13 @@ public final class Promise02TimeTest {
     public static void main(String[] args) {
         Due due = new Due();
         answersTheOneBefore(due);
-        refusesInOrder(due);
-        refusesWhileAnAskWaitsOrARowIsOpen(due);
+        refusesATimeThatIsNotThere(due);
+        refusesCyclesThatAreNotOneToHundred(due);
+        refusesWhileAnAskWaits(due);
+        refusesWhileARowIsOpen(due);
+        throwsTheFirstOneTold(due);
+        takesItWhenNoneWaitsAndNoneIsOpen(due);
+        leastAndMostBindTheMemory(due);
         bindsTheMemory(due);
         refreshTimeBindsTheMemory(due);
         fourActivatesBindTheMemory(due);
@@ -26,27 +31,92 @@ public final class Promise02TimeTest {
         }
     }
 
-    private static void refusesInOrder(Due due) {
-        BankTimes x = new BankTimes(0, 0, 0);
-        int[] none = {-1, 9, Integer.MIN_VALUE, Integer.MAX_VALUE};
-        int[] wrong = {0, 101, -1, Integer.MIN_VALUE, Integer.MAX_VALUE};
-        for (int round = 0; round < 2; round++) {
-            for (int w : none) {
-                due.throwing("what " + w, IndexOutOfBoundsException.class, () -> x.time(w, 5));
-                due.throwing("what first " + w, IndexOutOfBoundsException.class, () -> x.time(w, 0));
-            }
-            for (int c : wrong) {
-                due.throwing("cycles " + c, IllegalArgumentException.class, () -> x.time(8, c));
-            }
-            x.ask(0, false);
+    private static void timesAreTheFirstOnes(Due due, BankTimes x) {
+        int[] first = {3, 3, 7, 2, 4, 5, 2, 10, 12};
+        for (int what = 0; what < 9; what++) {
+            int w = what;
+            due.is("unchanged time " + w, first[w], () -> x.time(w, first[w]));
         }
-        x.run(4);
-        x.span(50);
-        x.run(50);
-        due.is("unchanged", 12, () -> x.time(8, 12));
     }
 
-    private static void refusesWhileAnAskWaitsOrARowIsOpen(Due due) {
+    private static void refusesATimeThatIsNotThere(Due due) {
+        BankTimes x = new BankTimes(0, 0, 0);
+        int[] none = {-1, 9, 10, -9, Integer.MIN_VALUE, Integer.MAX_VALUE};
+        String before = Seen.of(x);
+        for (int w : none) {
+            due.throwing("what " + w, IndexOutOfBoundsException.class, () -> x.time(w, 5));
+        }
+        due.unchanged(x, before);
+        timesAreTheFirstOnes(due, x);
+    }
+
+    private static void refusesCyclesThatAreNotOneToHundred(Due due) {
+        BankTimes x = new BankTimes(0, 0, 0);
+        int[] wrong = {0, 101, -1, 102, -100, Integer.MIN_VALUE, Integer.MAX_VALUE};
+        String before = Seen.of(x);
+        for (int what = 0; what < 9; what++) {
+            int w = what;
+            for (int c : wrong) {
+                String call = "time " + w + " of " + c;
+                due.throwing(call, IllegalArgumentException.class, () -> x.time(w, c));
+            }
+        }
+        due.unchanged(x, before);
+        timesAreTheFirstOnes(due, x);
+    }
+
+    /** No row is open yet: the ask alone is why. */
+    private static void refusesWhileAnAskWaits(Due due) {
+        for (int address = 0; address < 1 << 8; address += 1 << 4) {
+            BankTimes x = new BankTimes(1, 3, 0);
+            x.ask(address, address % 32 == 0);
+            due.is("no row is open", 0, () -> x.count(3));
+            String before = Seen.of(x);
+            for (int what = 0; what < 9; what++) {
+                int w = what;
+                due.throwing("an ask waits", IllegalStateException.class, () -> x.time(w, 5));
+            }
+            due.unchanged(x, before);
+        }
+    }
+
+    /** No ask waits any more: the one row alone is why, in whatever channel and bank it is. */
+    private static void refusesWhileARowIsOpen(Due due) {
+        for (int address = 0; address < 1 << 8; address += 1 << 4) {
+            BankTimes x = new BankTimes(1, 3, 0);
+            x.ask(address, false);
+            x.run(4);
+            due.is("none waits", 0, () -> x.count(10));
+            String before = Seen.of(x);
+            due.throwing("a row is open", IllegalStateException.class, () -> x.time(0, 5));
+            due.unchanged(x, before);
+            x.run(40);
+            due.throwing("it is still open", IllegalStateException.class, () -> x.time(8, 5));
+            x.span(50);
+            x.run(20);
+            timesAreTheFirstOnes(due, x);
+        }
+    }
+
+    private static void throwsTheFirstOneTold(Due due) {
+        BankTimes x = new BankTimes(0, 0, 0);
+        for (int round = 0; round < 3; round++) {
+            due.throwing("both are wrong", IndexOutOfBoundsException.class, () -> x.time(9, 0));
+            due.throwing("both are wrong", IndexOutOfBoundsException.class, () -> x.time(-1, 101));
+            due.throwing("what is wrong", IndexOutOfBoundsException.class, () -> x.time(9, 1));
+            due.throwing("cycles are wrong", IllegalArgumentException.class, () -> x.time(8, 101));
+            due.throwing("cycles are wrong", IllegalArgumentException.class, () -> x.time(0, 0));
+            // The second round has an ask that waits, the third one a row that is open.
+            if (round == 0) {
+                x.ask(0, false);
+            } else {
+                x.run(4);
+            }
+            due.throwing("all is right", IllegalStateException.class, () -> x.time(8, 100));
+        }
+    }
+
+    private static void takesItWhenNoneWaitsAndNoneIsOpen(Due due) {
         for (int c = 0; c < 2; c++) {
             int channel = c;
             BankTimes x = new BankTimes(1, 1, 0);
@@ -61,6 +131,26 @@ public final class Promise02TimeTest {
             due.is("none open", 3, () -> x.time(0, 5));
             x.check(0, 0, 0, 0, 0);
             due.is("the checker's row is not the memory's", 5, () -> x.time(0, 6));
+        }
+    }
+
+    private static void leastAndMostBindTheMemory(Due due) {
+        int[] edges = {1, 100};
+        for (int cycles : edges) {
+            BankTimes x = new BankTimes(0, 0, 0);
+            for (int what = 0; what < 9; what++) {
+                x.time(what, cycles);
+            }
+            x.ask(0, true);
+            x.ask(0, false);
+            x.ask(1 << 4, false);
+            x.run(1000);
+            // ACTIVATE, WRITE, READ, CLOSE, ACTIVATE, READ: all as soon as the last one lets them.
+            int[] done = {1 + cycles, 1 + 2 * cycles, 1 + 5 * cycles};
+            for (int ask = 0; ask < 3; ask++) {
+                int a = ask;
+                due.is("all times " + cycles + ": done " + a, done[a], () -> x.done(a));
+            }
         }
     }
 

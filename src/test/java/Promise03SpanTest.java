@@ -1,15 +1,25 @@
 /** Promise 3: span, and the refresh that it brings. */
 public final class Promise03SpanTest {
+    private static final int[] WRONG = {
+        -1, 1, 49, 10001, 48, 10002, -50, -10000, Integer.MIN_VALUE, Integer.MAX_VALUE,
+    };
+
     public static void main(String[] args) {
         Due due = new Due();
         answersTheOneBefore(due);
         refusesOthers(due);
+        refusesOthersWhileARefreshIsDue(due);
+        takesItWhileAnAskWaitsAndARowIsOpen(due);
+        zeroIsNever(due);
+        theShortestSpan(due);
+        theLongestSpan(due);
         refreshesAtEachSpan(due);
         countsFromCycleZero(due);
         closesTheLowestThatMayBe(due);
         servesNoAskWhileDue(due);
         staysDueUntilDone(due);
         staysDueWhenTheSpanEnds(due);
+        twoThatAreDueAreOne(due);
         due.end();
     }
 
@@ -24,11 +34,77 @@ public final class Promise03SpanTest {
     private static void refusesOthers(Due due) {
         BankTimes x = new BankTimes(0, 0, 0);
         x.span(77);
-        int[] wrong = {-1, 1, 49, 10001, -50, Integer.MIN_VALUE, Integer.MAX_VALUE};
-        for (int w : wrong) {
+        String before = Seen.of(x);
+        for (int w : WRONG) {
             due.throwing("span " + w, IllegalArgumentException.class, () -> x.span(w));
         }
+        due.unchanged(x, before);
         due.is("unchanged", 77, () -> x.span(0));
+    }
+
+    private static void refusesOthersWhileARefreshIsDue(Due due) {
+        BankTimes x = new BankTimes(0, 0, 0);
+        x.span(50);
+        x.run(49);
+        x.ask(0, false);
+        x.run(1);
+        x.ask(0, false);
+        x.run(1);
+        String before = Seen.of(x);
+        for (int w : WRONG) {
+            due.throwing("span " + w, IllegalArgumentException.class, () -> x.span(w));
+        }
+        due.unchanged(x, before);
+        due.is("unchanged", 50, () -> x.span(50));
+    }
+
+    private static void takesItWhileAnAskWaitsAndARowIsOpen(Due due) {
+        BankTimes x = new BankTimes(0, 0, 0);
+        x.ask(0, false);
+        due.is("an ask waits", 0, () -> x.span(50));
+        x.run(4);
+        due.is("a row is open", 50, () -> x.span(60));
+        x.run(56);
+        due.is("it binds", 60, () -> x.command(2, 1));
+        due.is("by a CLOSE", 3, () -> x.command(2, 2));
+    }
+
+    private static void zeroIsNever(Due due) {
+        BankTimes x = new BankTimes(1, 3, 0);
+        x.span(50);
+        x.run(49);
+        due.is("one cycle before", 50, () -> x.span(0));
+        for (int i = 0; i < 12; i++) {
+            x.run(1000);
+        }
+        due.is("never", 0, () -> x.count(3));
+        due.is("none due", 0, () -> x.count(9));
+    }
+
+    private static void theShortestSpan(Due due) {
+        BankTimes x = new BankTimes(0, 3, 0);
+        x.span(50);
+        x.run(1000);
+        due.is("twenty", 20, () -> x.count(8));
+        for (int k = 0; k < 20; k++) {
+            commandIs(due, x, k, 0, 50 * (k + 1), 4, 0, 0);
+        }
+    }
+
+    private static void theLongestSpan(Due due) {
+        BankTimes x = new BankTimes(0, 3, 0);
+        x.span(10000);
+        for (int round = 1; round <= 3; round++) {
+            for (int i = 0; i < 9; i++) {
+                x.run(1000);
+            }
+            x.run(999);
+            int before = round - 1;
+            due.is("one cycle before", before, () -> x.count(8));
+            x.run(1);
+            due.is("at its cycle", before + 1, () -> x.count(8));
+            commandIs(due, x, before, 0, 10000 * round, 4, 0, 0);
+        }
     }
 
     private static void commandIs(Due due, BankTimes x, int k, int... parts) {
@@ -134,5 +210,25 @@ public final class Promise03SpanTest {
         x.run(20);
         due.is("done", 1, () -> x.count(8));
         due.is("no more due", 0, () -> x.count(9));
+    }
+
+    private static void twoThatAreDueAreOne(Due due) {
+        BankTimes x = new BankTimes(0, 0, 0);
+        x.time(5, 100);
+        x.span(50);
+        x.run(44);
+        x.ask(0, true);
+        x.run(4);
+        due.is("written at 48", 48, () -> x.done(0));
+        // Its CLOSE must wait until 148: the refreshes of 50 and 100 are both due by then.
+        x.run(99);
+        due.is("due", 1, () -> x.count(9));
+        due.is("none yet", 0, () -> x.count(8));
+        x.run(2);
+        commandIs(due, x, 2, 0, 148, 3, 0, 0);
+        commandIs(due, x, 3, 0, 149, 4, 0, 0);
+        due.is("done for both", 0, () -> x.count(9));
+        x.run(1);
+        due.is("the one of 150", 1, () -> x.count(9));
     }
 }

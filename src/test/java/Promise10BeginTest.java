@@ -3,6 +3,8 @@ public final class Promise10BeginTest {
     public static void main(String[] args) {
         Due due = new Due();
         nothingIsOpenNothingWas(due);
+        aNewObjectHasBegun(due);
+        eachTimeIsForgotten(due);
         noColumnCommandWas(due);
         leavesTheMemoryAndTheTimes(due);
         due.end();
@@ -38,6 +40,44 @@ public final class Promise10BeginTest {
         x.check(0, 7, 3, 0, 0);
         x.begin();
         due.is("no CLOSE was", 0, () -> x.check(0, 8, 0, 0, 0));
+    }
+
+    private static void aNewObjectHasBegun(Due due) {
+        for (int kind = 0; kind < 5; kind++) {
+            int k = kind;
+            int want = k == 0 || k == 4 ? 0 : 2;
+            for (int begins = 0; begins < 3; begins++) {
+                BankTimes x = new BankTimes(1, 3, 0);
+                for (int i = 0; i < begins; i++) {
+                    x.begin();
+                }
+                due.is("kind " + k + " at 0", want, () -> x.check(0, 0, k, 0, 0));
+                due.is("kind " + k + " at 0 in 1", want, () -> x.check(1, 0, k, 0, 0));
+            }
+        }
+    }
+
+    /** With all times 100: what was before begin() binds nothing behind it. */
+    private static void eachTimeIsForgotten(Due due) {
+        BankTimes x = new BankTimes(0, 3, 0);
+        for (int what = 0; what < 9; what++) {
+            x.time(what, 100);
+        }
+        for (int round = 0; round < 3; round++) {
+            x.begin();
+            due.is("REFRESH", 0, () -> x.check(0, 0, 4, 0, 0));
+            due.is("too soon", 10, () -> x.check(0, 99, 0, 0, 0));
+            for (int bank = 0; bank < 4; bank++) {
+                int b = bank;
+                due.is("ACTIVATE", 0, () -> x.check(0, 100 + 100 * b, 0, b, 5));
+            }
+            due.is("WRITE", 0, () -> x.check(0, 500, 2, 0, 5));
+            due.is("READ too soon", 6, () -> x.check(0, 599, 1, 0, 5));
+            due.is("READ", 0, () -> x.check(0, 600, 1, 0, 5));
+            due.is("CLOSE too soon", 6, () -> x.check(0, 699, 3, 0, 5));
+            due.is("CLOSE", 0, () -> x.check(0, 700, 3, 0, 5));
+            due.is("ACTIVATE too soon", 4, () -> x.check(0, 799, 0, 0, 5));
+        }
     }
 
     /** An old READ or WRITE must not hold a CLOSE, though only one of its own bank would. */

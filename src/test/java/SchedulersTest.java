@@ -24,6 +24,16 @@ public final class SchedulersTest {
         turnsTakeTheOldestOfABankAlone(due);
         turnsForgetRefreshCloses(due);
         turnsOfChannelsAreApart(due);
+        anEmptyQueueGetsNoCommand(due);
+        noneIsReady(due);
+        rowsTakesTheOldestOfSeveral(due);
+        readsWithoutReadsTakesWrites(due);
+        readsWithoutWritesTakesReads(due);
+        readsWaitsForItsOwn(due);
+        readsWantedByTheOthersAreClosed(due);
+        turnsPassOverABankThatIsNotReady(due);
+        turnsGoOnAfterAClose(due);
+        turnsOfOneBank(due);
         due.end();
     }
 
@@ -202,5 +212,176 @@ public final class SchedulersTest {
         x.run(1);
         due.is("channel 0 begins with bank 0", 0, () -> x.command(2, 3));
         due.is("in channel 0", 0, () -> x.command(2, 0));
+    }
+
+    private static void anEmptyQueueGetsNoCommand(Due due) {
+        for (int scheduler = 0; scheduler < 4; scheduler++) {
+            BankTimes x = new BankTimes(1, 3, scheduler);
+            due.is("nothing", 0, () -> x.run(100));
+            x.ask(0, false);
+            due.is("one", 1, () -> x.run(100));
+            due.is("ACTIVATE and READ", 2, () -> x.count(3));
+            due.is("nothing again", 0, () -> x.run(100));
+            due.is("no more", 2, () -> x.count(3));
+        }
+    }
+
+    /** In the cycles between ACTIVATE and READ none of all may have its next command. */
+    private static void noneIsReady(Due due) {
+        for (int scheduler = 0; scheduler < 4; scheduler++) {
+            BankTimes x = new BankTimes(0, 1, scheduler);
+            x.time(0, 50);
+            x.time(2, 100);
+            x.time(6, 60);
+            x.ask(at(0, 0), false);
+            x.ask(at(0, 0), false);
+            x.ask(at(0, 1), false);
+            x.ask(at(1, 0), false);
+            x.run(50);
+            due.is("scheduler " + scheduler, 1, () -> x.count(3));
+            x.run(1);
+            due.is("READ at 51", 51, () -> x.done(0));
+        }
+    }
+
+    private static void rowsTakesTheOldestOfSeveral(Due due) {
+        BankTimes x = new BankTimes(0, 2, ROWS);
+        for (int bank = 3; bank >= 0; bank--) {
+            x.ask(bank << 4, false);
+        }
+        x.run(40);
+        for (int bank = 0; bank < 4; bank++) {
+            x.ask(bank << 4, false);
+        }
+        x.run(40);
+        // ACTIVATES at 1, 3, 5, 7, READS at 4, 6, 8, 10; then all rows are open: the oldest first.
+        doneAre(due, "the oldest", x, 4, 6, 8, 10, 41, 43, 45, 47);
+        BankTimes y = new BankTimes(0, 2, ROWS);
+        y.ask(0, false);
+        y.ask(1 << 4, false);
+        y.run(40);
+        y.ask(1 << 6 | 1 << 4, false);
+        y.ask(1 << 6, false);
+        y.run(1);
+        due.is("the oldest CLOSE", 1, () -> y.command(4, 3));
+    }
+
+    private static void readsWithoutReadsTakesWrites(Due due) {
+        for (int writes = 1; writes <= 8; writes++) {
+            BankTimes x = new BankTimes(0, 0, READS);
+            for (int i = 0; i < writes; i++) {
+                x.ask(0, true);
+            }
+            x.run(4 + 2 * (writes - 1));
+            for (int i = 0; i < writes; i++) {
+                int a = i;
+                due.is("write " + a, 4 + 2 * a, () -> x.done(a));
+            }
+        }
+    }
+
+    private static void readsWithoutWritesTakesReads(Due due) {
+        for (int reads = 1; reads <= 8; reads++) {
+            BankTimes x = new BankTimes(0, 0, READS);
+            for (int i = 0; i < reads; i++) {
+                x.ask(0, false);
+            }
+            int n = reads;
+            due.is("reads", n, () -> x.run(4 + 2 * (n - 1)));
+        }
+    }
+
+    /** The others are ready, but are not looked at while it is not their turn. */
+    private static void readsWaitsForItsOwn(Due due) {
+        BankTimes x = new BankTimes(0, 1, READS);
+        x.time(6, 100);
+        x.ask(at(0, 0), true);
+        x.run(10);
+        x.ask(at(0, 0), true);
+        x.ask(at(1, 0), false);
+        x.run(90);
+        due.is("the write waits for the read", 2, () -> x.count(3));
+        x.run(5);
+        doneAre(due, "reads first", x, 4, BankTimes.NONE, 104);
+        x.run(10);
+        due.is("then the write", 106, () -> x.done(1));
+
+        BankTimes y = new BankTimes(0, 1, READS);
+        y.time(6, 100);
+        y.ask(at(0, 0), false);
+        y.run(10);
+        y.ask(at(0, 0), false);
+        for (int i = 0; i < 5; i++) {
+            y.ask(at(1, 0), true);
+        }
+        y.run(90);
+        due.is("the read waits for the writes", 2, () -> y.count(3));
+        y.run(10);
+        due.is("the first write", 104, () -> y.done(2));
+        due.is("four writes are fewer than 5", 108, () -> y.done(1));
+    }
+
+    /** A row that writes alone want is closed for a read, when it is the reads' turn. */
+    private static void readsWantedByTheOthersAreClosed(Due due) {
+        BankTimes x = new BankTimes(0, 0, READS);
+        x.ask(0, false);
+        x.run(20);
+        x.ask(1 << 4, false);
+        for (int i = 0; i < 4; i++) {
+            x.ask(0, true);
+        }
+        x.run(1);
+        due.is("CLOSE", 3, () -> x.command(2, 2));
+        due.is("at once", 21, () -> x.command(2, 1));
+        BankTimes y = new BankTimes(0, 0, READS);
+        y.time(3, 5);
+        y.ask(0, false);
+        y.run(7);
+        y.ask(1 << 4, false);
+        y.ask(0, false);
+        y.run(30);
+        doneAre(due, "a read wants it", y, 4, 20, 9);
+    }
+
+    private static void turnsPassOverABankThatIsNotReady(Due due) {
+        BankTimes x = new BankTimes(0, 2, TURNS);
+        x.ask(3 << 4, false);
+        x.run(1);
+        // Bank 0 comes behind bank 3, but its ACTIVATE may not be before 3; none else is ready at 2.
+        x.ask(0, false);
+        x.run(1);
+        due.is("none at 2", 1, () -> x.count(3));
+        x.run(2);
+        due.is("bank 0 at 3", 0, () -> x.command(1, 3));
+        due.is("bank 0 at 3", 3, () -> x.command(1, 1));
+        due.is("bank 3 at 4, bank 0 is not ready", 4, () -> x.done(0));
+    }
+
+    /** A CLOSE for an ask is an ask's command too: the next bank has the next turn. */
+    private static void turnsGoOnAfterAClose(Due due) {
+        BankTimes x = new BankTimes(0, 1, TURNS);
+        x.ask(at(0, 0), false);
+        x.ask(at(1, 0), false);
+        x.run(40);
+        due.is("bank 1 was last", 1, () -> x.command(3, 3));
+        x.ask(at(0, 1), false);
+        x.ask(at(0, 0), false);
+        x.ask(at(1, 0), false);
+        x.ask(at(1, 0), false);
+        x.run(4);
+        due.is("CLOSE of bank 0", 3, () -> x.command(4, 2));
+        due.is("READ of bank 1", 1, () -> x.command(5, 2));
+        due.is("at 42", 42, () -> x.command(5, 1));
+        due.is("ACTIVATE of bank 0", 0, () -> x.command(6, 2));
+        due.is("at 44", 44, () -> x.command(6, 1));
+    }
+
+    private static void turnsOfOneBank(Due due) {
+        BankTimes x = new BankTimes(0, 0, TURNS);
+        x.ask(0, false);
+        x.ask(0, true);
+        x.ask(0, true);
+        x.run(20);
+        doneAre(due, "one bank", x, 4, 6, 8);
     }
 }
